@@ -16,6 +16,7 @@ public final class PromisesTest {
         faultOfLines();
         play();
         playMakesAnew();
+        playForgetsKinds();
         about();
         door();
         stool();
@@ -29,6 +30,7 @@ public final class PromisesTest {
         say();
         shift();
         undo();
+        undoOfWhatIsLeft();
         way();
         place();
         comes();
@@ -231,6 +233,15 @@ public final class PromisesTest {
         due(5, "the seed stays", x.seed(0), 77);
     }
 
+    private static void playForgetsKinds() {
+        OnlyEntrances x = played("EDmP12P10");
+        tell(x, "EDmP10P10");
+        x.play();
+        bring(x, 0, 0, FRONT);
+        bring(x, 1, 0);
+        due(5, "who was a ghost in another play hides others", x.about(5), 0b01);
+    }
+
     private static void about() {
         OnlyEntrances x = played("EDmDnDoFhP10P22P33P91L01L10L23");
         bring(x, 0, 0, FRONT, FRONT);
@@ -361,6 +372,10 @@ public final class PromisesTest {
         due(11, "another column", x.load(4), 0);
         walkAll(x, 1, LEFT);
         due(11, "a maid alone", x.load(4), 10);
+        due(11, "column 0", x.load(0), 0);
+        x = played("EDmP43");
+        bring(x, 0, 0, FRONT);
+        due(11, "column 0, in the middle row", x.load(0), 6);
         due(11, "load(6)", x.load(6), BAD);
         due(11, "load(-1)", x.load(-1), BAD);
     }
@@ -426,7 +441,7 @@ public final class PromisesTest {
     }
 
     private static void shift() {
-        OnlyEntrances x = played("EDmFaFbP10");
+        OnlyEntrances x = played("EDmDrFaFbP10");
         bring(x, 0, 0, FRONT);
         due(15, "to a free cell", x.shift(0, 5), 0);
         due(15, "back", x.shift(0, 0), 5);
@@ -434,6 +449,7 @@ public final class PromisesTest {
         due(15, "to a stool's", x.shift(0, 1), LATE);
         due(15, "to a part's", x.shift(0, 6), LATE);
         due(15, "to a door's", x.shift(0, 12), LATE);
+        due(15, "to another door's", x.shift(0, 17), LATE);
         due(15, "shift(2, 3)", x.shift(2, 3), UNKNOWN);
         due(15, "shift(0, 18)", x.shift(0, 18), UNKNOWN);
         due(15, "shift(0, -1)", x.shift(0, -1), UNKNOWN);
@@ -471,6 +487,29 @@ public final class PromisesTest {
         due(16, "what was forgotten", x.undo(), LATE);
         due(16, "the minute of what was forgotten", x.about(9), 7);
         due(16, "the cell then", x.part(0, 2), 12);
+    }
+
+    private static void undoOfWhatIsLeft() {
+        OnlyEntrances x = played("EDmDnFeP10P10L01");
+        x.enter(0, 0);
+        x.enter(1, 1);
+        x.say(0);
+        for (int act = 0; act < 5; act++) {
+            x.walk(0, act % 2 == 0 ? FRONT : BACK);
+            x.shift(0, act % 2 == 0 ? 5 : 4);
+            x.walk(1, act % 2 == 0 ? FRONT : BACK);
+        }
+        due(16, "acts at most", x.about(10), 14);
+        due(16, "the minute", x.about(9), 18);
+        for (int act = 4; act >= 0; act--) {
+            x.undo();
+            due(16, "a walk of 1 undone", x.part(1, 2), act % 2 == 0 ? 13 : 7);
+            x.undo();
+            due(16, "a shift undone", x.stool(0), act % 2 == 0 ? 4 : 5);
+            due(16, "a walk of 0 undone", x.undo(), act == 0 ? LATE : 3 * act - 1);
+            due(16, "where 0 is then", x.part(0, 2), act % 2 == 0 && act > 0 ? 12 : 6);
+        }
+        due(16, "what was said stays", x.about(6), 1);
     }
 
     private static void way() {
@@ -584,6 +623,12 @@ public final class PromisesTest {
         due(21, "not in line", x.bars(0), NONE);
         due(21, "bars(3)", x.bars(3), UNKNOWN);
         due(21, "bars(-1)", x.bars(-1), UNKNOWN);
+        x = played("EDmDpP10P10P10P10L32");
+        bring(x, 0, 0, RIGHT, RIGHT);
+        bring(x, 1, 0, RIGHT);
+        bring(x, 2, 0);
+        bring(x, 3, 1);
+        due(21, "two parts, the least among them", x.bars(0), 0b11);
         x = played("EDmDnP10P10L01");
         bring(x, 0, 0);
         bring(x, 1, 1);
@@ -604,6 +649,16 @@ public final class PromisesTest {
         bring(x, 1, 0);
         due(22, "who stands in the way", x.leftOut(0), 2);
         due(22, "how many", x.leftOut(1), 2);
+        x = played("EDmP10P10P10L01L10L12");
+        bring(x, 0, 0, RIGHT, RIGHT);
+        bring(x, 1, 0, RIGHT);
+        bring(x, 2, 0);
+        due(22, "whose lines are fewest", x.leftOut(0), 2);
+        due(22, "how many are left", x.leftOut(1), 2);
+        x.say(0);
+        x.say(1);
+        due(22, "when two were said", x.leftOut(0), 0);
+        due(22, "how many are left then", x.leftOut(1), 1);
         x = played("EDmP10P10P10L02");
         bring(x, 0, 0, RIGHT, RIGHT);
         bring(x, 1, 0, RIGHT, FRONT);
