@@ -1153,19 +1153,20 @@ public final class OnlyEntrances {
             most = -1;
             best = 0;
             int waiting = ~trial.onParts() & (1 << play.partCount) - 1;
-            goOn(waiting, 0, 0);
+            goOn(this, waiting, 0, 0);
         }
 
         /** The least part comes next first: so of like orders the first one found is the least number. */
-        private void goOn(int waiting, int number, int depth) {
+        private static void goOn(Orders orders, int waiting, int number, int depth) {
             if (waiting == 0 || depth >= MOST_PARTS) {
-                weigh(number);
+                orders.weigh(number);
                 return;
             }
-            for (int part = 0; part < play.partCount; part++) {
+            Stage trial = orders.trial;
+            for (int part = 0; part < MOST_PARTS; part++) {
                 if (Bits.has(waiting, part)) {
                     trial.bringOn(part, trial.leastFreeDoor());
-                    goOn(Bits.without(waiting, part), 10 * number + part + 1, depth + 1);
+                    goOn(orders, Bits.without(waiting, part), 10 * number + part + 1, depth + 1);
                     trial.stand(part, NONE);
                 }
             }
