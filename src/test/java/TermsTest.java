@@ -284,6 +284,28 @@ public final class TermsTest {
             Hand.due("line 0", x.line(0, 2), Hand.UNKNOWN);
             Hand.due("all cells are free", x.about(8), ALL_CELLS);
         });
+        Hand.test("made anew by another text: who was a GHOST is none", () -> {
+            OnlyEntrances x = Hand.played("EDmP12P12P12");
+            x.wipe();
+            Hand.write(x, "EDmP10P10P10L02");
+            x.play();
+            Hand.stand(x, 0, 0, 0);
+            Hand.stand(x, 1, 0, 6);
+            x.enter(2, 0);
+            Hand.due("who is seen", x.about(5), 0b001);
+            Hand.due("who bars", x.bars(0), 0b010);
+            Hand.due("what is heard", x.about(7), 0);
+        });
+        Hand.test("made anew by another text: where a DOOR, a STOOL was told one may be told", () -> {
+            OnlyEntrances x = Hand.played("EDmFnFa");
+            x.wipe();
+            Hand.write(x, "EDnFmFa");
+            Hand.due("fault", x.fault(), Hand.NONE);
+            Hand.due("play", x.play(), 1200);
+            Hand.due("door", x.door(0), 13);
+            Hand.due("to where the door was", x.shift(1, 12), Hand.LATE);
+            Hand.due("to where the stool was", x.shift(1, 14), 0);
+        });
     }
 
     private static void free() {
@@ -348,6 +370,41 @@ public final class TermsTest {
             for (int cell : cells) {
                 x.shift(0, cell);
                 Hand.due("a stool at " + cell, x.part(0, 3), cell > 12 && cell < 16 ? 0 : 2);
+            }
+        });
+        Hand.test("between them: in a ROW, in a COLUMN, and aslant each way", () -> {
+            int[][] ends = {{0, 2}, {3, 5}, {6, 8}, {14, 16}, {0, 12}, {2, 14}, {5, 17}, {0, 14}, {3, 17}, {2, 12}, {5, 15}};
+            for (int[] end : ends) {
+                OnlyEntrances x = Hand.played("EDnDpFjP10P10P10L12L21");
+                Hand.stand(x, 1, 0, end[0]);
+                Hand.stand(x, 2, end[0] == 14 ? 1 : 0, end[1]);
+                String cells = " between " + end[0] + " and " + end[1];
+                int middle = (end[0] + end[1]) / 2;
+                Hand.due("sight with nobody" + cells, x.part(1, 3), 0b100);
+                if (middle != 13 && middle != 15) {
+                    x.shift(0, middle);
+                    Hand.due("sight with a stool" + cells, x.part(1, 3), 0);
+                    Hand.due("bars with a stool" + cells, x.bars(0), Hand.NONE);
+                    x.shift(0, 9);
+                }
+                Hand.stand(x, 0, middle % 6 < 3 || end[1] == 15 ? 0 : 1, middle);
+                Hand.due("sight with a part" + cells, x.part(1, 3) & 0b100, 0);
+                Hand.due("back" + cells, x.part(2, 3) & 0b010, 0);
+                Hand.due("bars with a part" + cells, x.bars(0), 0b001);
+                Hand.due("bars the other way" + cells, x.bars(1), 0b001);
+                Hand.due("lines heard" + cells, x.about(7), 0);
+            }
+        });
+        Hand.test("between them: all CELLS of a whole ROW", () -> {
+            for (int first = 0; first < 18; first += 6) {
+                for (int gap = first + 1; gap < first + 5; gap++) {
+                    OnlyEntrances x = Hand.played("EDmDrP10P10P10L01");
+                    Hand.stand(x, 0, 0, first);
+                    Hand.stand(x, 2, 1, gap);
+                    Hand.stand(x, 1, 1, first + 5);
+                    Hand.due("bars by " + gap, x.bars(0), 0b100);
+                    Hand.due("heard by " + gap, x.about(7), 0);
+                }
             }
         });
         Hand.test("in none between them there is .. a PART but a GHOST", () -> {
@@ -649,6 +706,28 @@ public final class TermsTest {
             x.enter(2, 1);
             Hand.due("how many of its own", x.place(0, 1), 2);
             Hand.due("the nearest where both are heard", x.place(0, 0), 16);
+        });
+        Hand.test("PLACE: LINES of others are not its own", () -> {
+            OnlyEntrances x = Hand.played("EDmDrP10P10P10L12L20");
+            x.enter(1, 0);
+            Hand.stand(x, 0, 1, 4);
+            Hand.stand(x, 2, 1, 16);
+            Hand.due("how many", x.place(0, 1), 1);
+            Hand.due("its own cell", x.place(0, 0), 4);
+            Hand.lead(x, 0, 15);
+            Hand.due("how many, in the others' way", x.place(0, 1), 1);
+            Hand.due("where it stands in their way", x.place(0, 0), 15);
+        });
+        Hand.test("PLACE: the first CELL, and the last", () -> {
+            OnlyEntrances x = Hand.played("EDmDrP10P10L01");
+            Hand.stand(x, 0, 0, 6);
+            Hand.stand(x, 1, 1, 2);
+            Hand.due("of 0 and others, one step off", x.place(0, 0), 0);
+            Hand.lead(x, 1, 3);
+            Hand.lead(x, 0, 11);
+            Hand.due("17 and 5 and 10 are one step off", x.place(0, 0), 5);
+            Hand.lead(x, 1, 12);
+            Hand.due("17 alone is one step off", x.place(0, 0), 17);
         });
         Hand.test("PLACE: of like ones that of the shortest WAY", () -> {
             OnlyEntrances x = Hand.played("EDmDrP10P11L01");
@@ -1310,7 +1389,10 @@ public final class TermsTest {
             .add(new BigInteger("1442695040888963407")).longValue();
     }
 
-    /** Stages on which many lots can be, and are told apart by who is seen. */
+    /**
+     * Stages on which each lot can be told by who is seen then: on 1 and 2 many are on; behind these on each even
+     * one a part stands beside another, on each odd one it has room.
+     */
     private static OnlyEntrances evening(int number) {
         OnlyEntrances x = Hand.played("EDmDoDqFjP10P10P10P10P10P10");
         if (number == 1 || number == 2) {
@@ -1323,10 +1405,10 @@ public final class TermsTest {
             Hand.stand(x, 3, 1, 14);
             Hand.stand(x, 5, 2, 16);
         }
-        if (number == 3) {
-            Hand.stand(x, 1, 0, 8);
-            Hand.stand(x, 3, 1, 1);
-            Hand.stand(x, 5, 2, 11);
+        if (number > 2) {
+            int part = (number - 3) / 2;
+            Hand.stand(x, (part + 1) % 6, 1, number % 2 == 0 ? 8 : 17);
+            Hand.stand(x, part, 0, 7);
         }
         return x;
     }
@@ -1336,9 +1418,9 @@ public final class TermsTest {
         OnlyEntrances y = evening(number);
         int seen = 0;
         for (int lot : lots) {
-            if (lot < 24) {
+            if (lot >= 0 && lot < 24) {
                 y.walk(lot / 4, lot % 4);
-            } else {
+            } else if (lot >= 24) {
                 y.enter((lot - 24) / 3, (lot - 24) % 3);
             }
             seen += Integer.bitCount(y.about(5));
@@ -1352,12 +1434,18 @@ public final class TermsTest {
                 : "24 .. 41: that less 24 by 3 (down) is a PART that ENTERS by the DOOR that is left by 3";
             int first = lot;
             Hand.test("EVENINGS, " + lot + " of " + words + ", if it can be", () -> {
-                for (int number = 0; number < 4; number++) {
+                int shown = 0;
+                for (int number = 0; number < 15; number++) {
                     OnlyEntrances x = evening(number);
                     for (int then = 0; then < 42; then++) {
+                        int due = acted(number, first, then);
+                        shown += due != acted(number, -1, then) ? 1 : 0;
                         x.seed(seedOf(first, then));
-                        Hand.due("on stage " + number + ", then " + then, x.evenings(2), acted(number, first, then));
+                        Hand.due("on stage " + number + ", then " + then, x.evenings(2), due);
                     }
+                }
+                if (shown == 0) {
+                    Hand.fail("no stage shows this lot");
                 }
             });
         }
